@@ -17,6 +17,7 @@ final class InputTest {
         depth();
         leastPosition();
         lateErrors();
+        longRules();
         Check.end();
     }
 
@@ -147,7 +148,7 @@ final class InputTest {
 
     /** A sound text replaces all, a text with an error nothing. */
     private static void replacement() {
-        String text = "zones 2;proof 0;damper supply 1 2;damper exhaust 0 4 open;fan stair 30 1;fan supply 9 9 0;"
+        String text = "zones 2;proof 0;damper supply 1 2;damper exhaust 0 4 open;fan stair 300 1;fan supply 9 9 0;"
             + "door 0 3 60;rule alarm 0 do close 1;";
         SmokeControl x = Check.plant(text);
         disturb(x);
@@ -169,6 +170,7 @@ final class InputTest {
         x.setDetector(1, true);
         x.setDoor(0, true);
         x.jam(0, true);
+        x.jam(1, true);
         x.breakFan(0, true);
         x.operateDamper(0, 1);
         x.operateFan(0, 1);
@@ -178,12 +180,19 @@ final class InputTest {
         x.tick(60);
         x.breakFan(0, false);
         x.tick(5);
+        x.setDoor(0, false);
+        x.tick(1);
+        x.setDoor(0, true);
         x.keep(0);
         x.keep(1);
         x.keep(2);
         due("disturbed: damper trouble", x.damper(0, 3), 1);
         due("disturbed: pressure trouble", x.stair(5), 1);
         due("disturbed: alarm", x.alarm(0), 1);
+        due("disturbed: pressure", x.stair(0), 999);
+        due("disturbed: throttle", x.stair(1), 95);
+        due("disturbed: command", x.damper(1, 1), 0);
+        due("disturbed: timer", x.damper(1, 4), 65);
     }
 
     private static void asAtFirst(SmokeControl x) {
@@ -194,6 +203,7 @@ final class InputTest {
         due("first: key", x.turnKey(false), 0);
         due("first: detector", x.setDetector(1, false), 0);
         due("first: jam", x.jam(0, false), 0);
+        due("first: jam", x.jam(1, false), 0);
         due("first: breakFan", x.breakFan(0, false), 0);
         due("first: door", x.setDoor(0, false), 0);
         due("first: pressure", x.stair(0), 0);
@@ -221,10 +231,12 @@ final class InputTest {
             due("first: slot", x.restore(slot), -4);
         }
         // The first tick counts as a change of the command, so a jammed damper is late from the second on.
-        x.jam(0, true);
-        x.operateDamper(0, 1);
+        x.jam(1, true);
+        x.operateDamper(1, 2);
         x.tick(1);
-        due("first: the first tick is a change", x.damper(0, 4), 0);
+        due("first: the first tick is a change", x.damper(1, 4), 0);
+        x.tick(1);
+        due("first: the second is none", x.damper(1, 4), 1);
     }
 
     private static void bad(String text, int code, int position) {
@@ -407,5 +419,26 @@ final class InputTest {
         bad("zones " + "1".repeat(894), 1, 6);
         bad(";".repeat(900), 1, 0);
         bad("rule " + "(".repeat(895), 3, 11);
+    }
+
+    /** Rules that fill the text, in one plant after another of the same object. */
+    private static void longRules() {
+        SmokeControl x = new SmokeControl();
+        String nots = "not not not not not not ";
+        String start = "door 0 1 51;door 0 1 51;rule ";
+        for (int n = 0; n < 12; n++) {
+            int door = n % 2;
+            String text = start + (nots + "ajar " + door + " or ").repeat(24) + "not ajar " + door + " do close 0;";
+            due("length of a long rule", text.length() <= 900 ? 1 : 0, 1);
+            due("load of a long rule", Check.load(x, text), 3);
+            due("a long rule", x.ruleHolds(0), 1);
+            text = start + (nots + "ajar " + door + " or ").repeat(24) + "ajar " + door + " do close 0;";
+            Check.load(x, text);
+            due("a long rule that does not hold", x.ruleHolds(0), 0);
+            x.setDoor(1 - door, true);
+            due("nor with the other door", x.ruleHolds(0), 0);
+            x.setDoor(door, true);
+            due("but with this one", x.ruleHolds(0), 1);
+        }
     }
 }

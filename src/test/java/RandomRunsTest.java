@@ -19,7 +19,7 @@ final class RandomRunsTest {
     }
 
     public static void main(String[] args) {
-        int runs = args.length > 0 ? Integer.parseInt(args[0]) : 1500;
+        int runs = args.length > 0 ? Integer.parseInt(args[0]) : 800;
         int start = args.length > 1 ? Integer.parseInt(args[1]) : 1;
         for (int seed = start; seed < start + runs && Check.wrongAnswers() == 0; seed++) {
             new RandomRunsTest(seed).run();

@@ -4,7 +4,7 @@ import java.util.Random;
 final class RandomTextsTest {
     public static void main(String[] args) {
         int[] codes = new int[4];
-        for (int seed = 1; seed <= 4000 && Check.wrongAnswers() < 20; seed++) {
+        for (int seed = 1; seed <= 2000 && Check.wrongAnswers() < 20; seed++) {
             Random random = new Random(seed);
             RandomPlant plants = new RandomPlant(random);
             SmokeControl x = new SmokeControl();

@@ -66,6 +66,8 @@ final class TrialsTest {
         int all = x.allSmokeAfter(200);
         int pressure = x.pressureAfter(200);
         x.tick(200);
+        due("pressureAfter(0)", x.pressureAfter(0), x.stair(0));
+        due("the pressure is not 0", x.stair(0) > 0 ? 1 : 0, 1);
         due("smokeAfter(0, 200)", smoke, x.smoke(0));
         due("allSmokeAfter(200)", all, x.smoke(0) + x.smoke(1) + x.stair(2));
         due("pressureAfter(200)", pressure, x.stair(0));
@@ -138,6 +140,13 @@ final class TrialsTest {
         due("1000 - 1000 * 33 / 2000 when the fan begins", z.clearAfter(1000), 30);
         z.jam(0, true);
         due("never", z.clearAfter(1000), -4);
+        SmokeControl w = Check.plant("damper exhaust 0 1 open;fan exhaust 5 1 0;");
+        w.setSource(0, 50);
+        w.tick(30);
+        w.setSource(0, 0);
+        w.operateFan(0, 1);
+        due("101 ticks of 2 and 99 of 1", w.clearAfter(700), 200);
+        due("not in 200 ticks", w.clearAfter(699), -4);
     }
 
     private static void bestSwitch() {
@@ -225,6 +234,17 @@ final class TrialsTest {
         due("not before", z.smoke(0) < 100 ? 1 : 0, 0);
         z.tick(1);
         due("but then", z.smoke(0) < 100 ? 1 : 0, 1);
+        due("the longest time", slowly(1).purgeTime(0), 200);
+        due("one tick more is too much", slowly(2).purgeTime(0), -4);
+    }
+
+    private static SmokeControl slowly(int travel) {
+        SmokeControl x = Check.plant("damper exhaust 0 " + travel + ";fan exhaust 25 1 0;");
+        x.setSource(0, 50);
+        x.tick(15);
+        x.setSource(0, 0);
+        due("smoke", x.smoke(0), 750);
+        return x;
     }
 
     private static void purgeTimeSwitches() {
@@ -311,6 +331,7 @@ final class TrialsTest {
         x.setDoor(1, true);
         due("all open", x.worstDoor(), -4);
         due("none", new SmokeControl().worstDoor(), -4);
+        due("ties at 999", Check.plant("fan stair 999 1;fan stair 999 1;door 0 1 51;door 0 1 52;").worstDoor(), 0);
         due("ties", Check.plant("door 0 1 60;door 0 1 500;").worstDoor(), 0);
         SmokeControl y = Check.plant("door 0 1 60;door 0 1 500;");
         y.setDoor(0, true);
