@@ -46,6 +46,37 @@ final class Check {
         return x.load(text.length());
     }
 
+    /** A text without an error, and how many items it has. */
+    static void sound(String text, int items) {
+        SmokeControl x = new SmokeControl();
+        due("load of: " + text, load(x, text), items);
+        due("errorCode of: " + text, x.errorCode(), 0);
+        due("errorPosition of: " + text, x.errorPosition(), -1);
+    }
+
+    /** A text with an error. */
+    static void bad(String text, int code, int position) {
+        SmokeControl x = new SmokeControl();
+        due("load of: " + text, load(x, text), -4);
+        due("errorCode of: " + text, x.errorCode(), code);
+        due("errorPosition of: " + text, x.errorPosition(), position);
+    }
+
+    /** A text in two parts with an error at the first byte of the second one. */
+    static void badFrom(int code, String before, String from) {
+        bad(before + from, code, before.length());
+    }
+
+    /** The latest n events, the oldest of them first, each as time:code/number. */
+    static void dueEvents(String when, SmokeControl x, int n, String want) {
+        StringBuilder found = new StringBuilder();
+        for (int e = n - 1; e >= 0; e--) {
+            found.append(x.event(e, 0)).append(':').append(x.event(e, 1)).append('/').append(x.event(e, 2)).append(' ');
+        }
+        String got = found.toString().trim();
+        due(when + ": events " + got + ", due are " + want + ": same", got.equals(want) ? 1 : 0, 1);
+    }
+
     /** A new object with the plant of a text that has no error. */
     static SmokeControl plant(String text) {
         SmokeControl x = new SmokeControl();

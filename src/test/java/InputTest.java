@@ -121,10 +121,7 @@ final class InputTest {
     }
 
     private static void sound(String text, int items) {
-        SmokeControl x = new SmokeControl();
-        due("load of: " + text, Check.load(x, text), items);
-        due("errorCode of: " + text, x.errorCode(), 0);
-        due("errorPosition of: " + text, x.errorPosition(), -1);
+        Check.sound(text, items);
     }
 
     private static void counts() {
@@ -240,10 +237,7 @@ final class InputTest {
     }
 
     private static void bad(String text, int code, int position) {
-        SmokeControl x = new SmokeControl();
-        due("load of: " + text, Check.load(x, text), -4);
-        due("errorCode of: " + text, x.errorCode(), code);
-        due("errorPosition of: " + text, x.errorPosition(), position);
+        Check.bad(text, code, position);
     }
 
     private static void syntax() {
