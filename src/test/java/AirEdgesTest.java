@@ -12,6 +12,7 @@ final class AirEdgesTest {
         throttleAtMost();
         throttleOfThisTick();
         pressureTimer();
+        pressureTimerOfSixFans();
         pressureTimerEnds();
         smokeAtMost();
         clearingAtMost();
@@ -160,6 +161,18 @@ final class AirEdgesTest {
         SmokeControl y = stairFan(49, 7, 51, 49);
         y.tick(60);
         due("the pressure is the target", y.stair(5), 0);
+    }
+
+    /** "some stair fan": each of six alone is one. */
+    private static void pressureTimerOfSixFans() {
+        for (int fan = 0; fan < 6; fan++) {
+            SmokeControl x = Check.plant("fan stair 9 1;".repeat(6));
+            x.operateFan(fan, 1);
+            x.tick(29);
+            due("fan " + fan + ": 29 ticks", x.stair(5), 0);
+            x.tick(1);
+            due("fan " + fan + ": 30 ticks", x.stair(5), 1);
+        }
     }
 
     /** "otherwise the pressure timer becomes 0": without start, and at the target */

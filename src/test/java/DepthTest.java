@@ -13,11 +13,14 @@ import java.util.regex.Matcher;
 import java.util.regex.Pattern;
 import java.util.spi.ToolProvider;
 
-/** Rule 11 of LANGUAGE.md: calls go at most eight deep; told from what javap says of the classes. */
+/** Rules 11 and 4 of LANGUAGE.md: calls go at most eight deep, and which library; told from what javap says of the classes. */
 final class DepthTest {
     private static final int MOST = 8;
+    private static final Set<String> LIBRARY = Set.of("java/lang/Object.\"<init>\"", "java/lang/String.length",
+        "java/lang/String.charAt", "java/lang/Integer.bitCount", "java/lang/Math.min", "java/lang/Math.max",
+        "java/lang/Math.floorMod", "java/util/Arrays.fill", "java/lang/System.arraycopy");
     private static final Pattern CLASS = Pattern.compile("^[a-z ]*class (\\S+) .*\\{$");
-    private static final Pattern METHOD = Pattern.compile("^  [^ ].*?([\\w$<>]+)\\([^)]*\\);$");
+    private static final Pattern METHOD = Pattern.compile("^  (?:[^ ].* )?([\\w$<>]+)\\([^)]*\\);$");
     private static final Pattern CALL = Pattern.compile("// (?:Interface)?Method ([^:]+):");
 
     private final Map<String, Set<String>> calls = new TreeMap<>();
@@ -31,7 +34,18 @@ final class DepthTest {
             List<String> deepest = test.deepest(start, new HashSet<>());
             Check.due("more than " + MOST + " calls deep: " + deepest, deepest.size() > MOST ? 1 : 0, 0);
         }
+        test.library();
         Check.end();
+    }
+
+    /** Each call is one of the program or of the few functions of the library that it needs. */
+    private void library() {
+        for (Set<String> called : calls.values()) {
+            for (String name : called) {
+                Check.due("no function of the program or the list: " + name,
+                    calls.containsKey(name) || LIBRARY.contains(name) ? 0 : 1, 0);
+            }
+        }
     }
 
     private static String said() throws URISyntaxException {

@@ -15,6 +15,7 @@ final class MoveEdgesTest {
         damperTroubleWithoutProofTime();
         damperTroubleWithLongestTimes();
         levelEnds();
+        sixteenDampersAndSixFans();
         fanNeedsProvenDamper();
         fanTroubleAtItsTime();
         fanTroubleWithoutProofTime();
@@ -292,6 +293,47 @@ final class MoveEdgesTest {
         due("not below 0", x.fan(1, 0), 0);
         due("four events", x.events(), 4);
         Check.dueEvents("each level is reached once", x, 2, "33:5/0 62:5/1");
+    }
+
+    /** As many dampers and fans as there may be: each moves for itself, with its own timer and its own events. */
+    private static void sixteenDampersAndSixFans() {
+        StringBuilder text = new StringBuilder("proof 99;");
+        for (int d = 0; d < 16; d++) {
+            text.append("damper exhaust 0 ").append(d + 4).append(';');
+        }
+        for (int f = 0; f < 6; f++) {
+            text.append("fan stair 9 ").append(f + 3).append(';');
+        }
+        SmokeControl x = Check.plant(text.toString());
+        for (int d = 0; d < 16; d++) {
+            x.operateDamper(d, 1);
+        }
+        for (int f = 0; f < 6; f++) {
+            x.operateFan(f, 1);
+        }
+        for (int time = 1; time <= 9; time++) {
+            x.tick(1);
+            for (int d = 0; d < 16; d++) {
+                due("damper " + d + " at " + time, x.damper(d, 0), Math.min(time, d + 4));
+            }
+            for (int f = 0; f < 6; f++) {
+                due("fan " + f + " at " + time, x.fan(f, 0), Math.min(time, f + 3));
+                due("fan " + f + " at " + time + ": timer", x.fan(f, 4), time < f + 3 ? time : 0);
+            }
+        }
+        due("timer of damper 15", x.damper(15, 4), 8);
+        due("timer of damper 0", x.damper(0, 4), 0);
+        Check.dueEvents("levels", x, 6, "3:4/0 4:4/1 5:4/2 6:4/3 7:4/4 8:4/5");
+        due("no other event", x.events(), 6);
+        for (int d = 0; d < 16; d += 15) {
+            x.operateDamper(d, 0);
+        }
+        x.operateFan(0, 0);
+        x.tick(2);
+        due("damper 0 shuts", x.damper(0, 0), 2);
+        due("damper 15 shuts", x.damper(15, 0), 7);
+        due("fan 0 slows down", x.fan(0, 0), 1);
+        due("fan 5 does not", x.fan(5, 0), 8);
     }
 
     /** "it is a stair fan or some damper of its list is proven open after step (b)" */

@@ -337,6 +337,7 @@ final class TextEdgesTest {
                 due("a large plant", Check.load(x, large), 38);
                 x.setSource(7, 50);
                 x.turnKey(true);
+                x.operateFan(2, 1);
                 x.operateFan(5, 1);
                 x.setDoor(9, true);
                 x.tick(20);
@@ -359,6 +360,10 @@ final class TextEdgesTest {
             z.tick(6);
         }
         Seen.due("then", Seen.now(x), Seen.now(y));
+        x.tick(40);
+        y.tick(40);
+        due("no pressure trouble", x.stair(5), y.stair(5));
+        due("events", x.events(), y.events());
         due("smokeAfter", x.smokeAfter(1, 30), y.smokeAfter(1, 30));
         due("bestSwitch", x.bestSwitch(5), y.bestSwitch(5));
         due("purgeTime", x.purgeTime(0), y.purgeTime(0));
