@@ -137,7 +137,7 @@ final class AirEdgesTest {
         due("after three", x.stair(1), 100);
     }
 
-    /** Q is that of the throttle before step (d) changes it; 200 * 55 / 100 is rounded down before it is squared. */
+    /** Q is that of the throttle before step (d) changes it; 33 * 95 / 100 is rounded down before it is squared. */
     private static void throttleOfThisTick() {
         SmokeControl x = stairFan(33, 1, 500, 200);
         x.tick(1);
