@@ -24,7 +24,7 @@ final class RefusalTest {
     }
 
     /** A state in which nothing is as at first: smoke that no exhaust takes, open doors, timers, trouble, two slots. */
-    private static SmokeControl busy() {
+    static SmokeControl busy() {
         SmokeControl x = Check.plant(PLANT);
         x.setSource(0, 40);
         x.setSource(1, 3);

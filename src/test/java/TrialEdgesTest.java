@@ -30,6 +30,7 @@ final class TrialEdgesTest {
         mostDoorsAtTheTarget();
         mostDoorsOfTen();
         worstDoorTies();
+        worstDoorBesidesOpenOnes();
         worstDoorAtTheEnds();
         questionsAfterTrials();
         emptySlots();
@@ -515,6 +516,21 @@ final class TrialEdgesTest {
         SmokeControl x = Check.plant("fan stair 999 1;door 0 1 500;door 0 1 200;door 0 1 200;");
         x.setDoor(0, true);
         due("the lowest of those shut", x.worstDoor(), 1);
+    }
+
+    /** worstDoor: the pressure is that with "those that are open now": they can make a tie, or part one. */
+    private static void worstDoorBesidesOpenOnes() {
+        SmokeControl x = Check.plant("fan stair 999 1;door 0 1 500;door 0 1 200;door 0 1 205;");
+        x.setDoor(0, true);
+        due("a tie beside an open door", x.worstDoor(), 1);
+        x.setDoor(0, false);
+        x.setDoor(1, true);
+        due("none beside a smaller open door", x.worstDoor(), 0);
+        String fans = "fan stair 999 1;".repeat(3);
+        SmokeControl y = Check.plant(fans + "door 0 1 51;door 0 1 60;door 0 1 80;");
+        due("all at 999", y.worstDoor(), 0);
+        y.setDoor(0, true);
+        due("below 999 beside an open door", y.worstDoor(), 2);
     }
 
     /** worstDoor: "-4 if all doors are open or there are none" */
