@@ -14,6 +14,7 @@ final class EffectTest {
 
     public static void main(String[] args) {
         fire();
+        alarmTime();
         doors();
         faults();
         panel();
@@ -65,6 +66,22 @@ final class EffectTest {
         only("setSource", EffectTest::busy, x -> x.setSource(1, 50), NOTHING, "source and detector 1.*");
         only("setDetector", EffectTest::busy, x -> x.setDetector(0, true), NOTHING, "source and detector 0.*");
         only("setDetector", EffectTest::busy, x -> x.setDetector(1, false), NOTHING, "source and detector 1.*");
+    }
+
+    /** Promise 8: "an alarm that is on stays on", and its alarm time stays what it is. */
+    private static void alarmTime() {
+        SmokeControl x = Check.plant("rule after 3 do close 0;");
+        x.setSource(0, 50);
+        x.tick(2);
+        Check.due("the alarm", x.alarm(0), 1);
+        x.tick(1);
+        x.setDetector(0, true);
+        x.tick(1);
+        x.setDetector(0, false);
+        Check.due("2 ticks since", x.ruleHolds(0), 0);
+        x.tick(1);
+        Check.due("3 ticks since", x.ruleHolds(0), 1);
+        Check.due("no second alarm", x.events(), 1);
     }
 
     /** Promise 9: the areas and the rules that look at the door change at once, the pressure at the next tick. */
